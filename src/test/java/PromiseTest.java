@@ -298,6 +298,7 @@ public final class PromiseTest {
         due("6: W", x.person(2, 0), 5);
         due("6: jobs", x.person(2, 4), 2);
         due("6: no jobs", x.person(1, 4), 0);
+        due("6: one job", x.person(0, 4), 1);
         x.rank(2, 0);
         due("6: place", x.person(0, 1), 1);
         x.dismiss(2);
@@ -503,10 +504,12 @@ public final class PromiseTest {
             x.drift(40);
         }
         due("14: 9000", x.drift(40), 9000);
-        due("14: not above 9000", x.drift(40), 9040);
+        due("14: not above 9000", x.drift(1), 9001);
         due("14: above", x.drift(1), FULL);
         due("14: OUTSIDE first", x.drift(0), OUTSIDE);
-        due("14: nothing changed", x.told(4), 9040);
+        due("14: nothing changed", x.told(4), 9001);
+        x.undo();
+        due("14: 9000 again, may be passed", x.drift(40), 9040);
         due("14: nobody draws", x.seed(0), 0);
     }
 
@@ -579,6 +582,9 @@ public final class PromiseTest {
         due("16: not before", x.raise(15, 78, NONE), NONE);
         due("16: not before", x.raise(15, 78, 0), NONE);
         due("16: no jobs", x.raise(0, 0, NONE), 0);
+        due("16: job 0 alone", x.raise(1, 20, 0), 1);
+        due("16: job 0 alone", x.raise(1, 19, 0), NONE);
+        due("16: job 3 alone", x.raise(8, 60, NONE), NONE);
         due("16: bits", x.raise(16, 0, NONE), UNKNOWN);
         due("16: bits below 0", x.raise(-1, 1000, NONE), UNKNOWN);
         due("16: bits least", x.raise(LEAST, 0, NONE), UNKNOWN);
@@ -639,6 +645,13 @@ public final class PromiseTest {
         due("18: eyes are open still", x.told(6), 0);
         x.wake(1, 199);
         due("18: never and never", x.bread(0), 0);
+        x = city("c100;p10;p40;p5;p2;p1;p0;j5 1 9;j4 1 9;j3 1 9;j0 1 9;");
+        due("18: all shut", x.bread(0), 40);
+        due("18: all shut", x.bread(1), 39);
+        due("18: all shut", x.bread(2), 38);
+        due("18: the head", x.bread(3), 0);
+        x.dismiss(5);
+        due("18: of a dismissed one", x.bread(0), 0);
         due("18: UNKNOWN", x.bread(4), UNKNOWN);
         due("18: UNKNOWN", x.bread(-1), UNKNOWN);
     }
@@ -665,6 +678,10 @@ public final class PromiseTest {
         // 2 never wakes without job 0 of 0, who wakes too late: without 0 job 0 is never done either
         x = city("c50;p60;p1;p1;j0 1 9;w2 0;");
         due("19: one makes another one stuck", x.free(1), 5);
+        // 0 or 2: without 0 job 0 is done at 21; without 2 nobody waits for it
+        x = city("c50;p40;p1;p1;j1 20 9;w2 0;");
+        due("19: of like ones the least", x.free(1), 1);
+        due("19: of like ones the least", x.free(0), 1);
         x = city("c50;p1;p60;p1;");
         x.eyes(1, true);
         due("19: stuck with shut eyes", x.free(1), 2);
@@ -784,6 +801,12 @@ public final class PromiseTest {
         due("23: 01 and 02 part alike", x.lookNext(), 1);
         x.dismiss(1);
         due("23: one order", x.lookNext(), NONE);
+        x = city("c100;p100;p10;p5;");
+        x.dismiss(2);
+        due("23: 12 tells whether 1 is up", x.lookNext(), 12);
+        x = city("c100;p100;p10;");
+        due("23: but there must be a 2", x.lookNext(), NONE);
+        due("23: no city", new WakeOrder().lookNext(), NONE);
     }
 
     // Promise 24

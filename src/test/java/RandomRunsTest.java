@@ -11,7 +11,6 @@ public final class RandomRunsTest {
     private final Tally tally = new Tally();
     private final List<Method> calls = new ArrayList<>();
     private long state;
-    private int fed;
 
     private int below(int n) {
         state = state * 6364136223846793005L + 1442695040888963407L;
@@ -35,6 +34,10 @@ public final class RandomRunsTest {
             test.state = run * 7919L + 17;
             test.runOnce(run);
         }
+        for (int text = 0; text < 20 * runs; text++) {
+            test.state = text * 104729L + 5;
+            test.readOnce(text);
+        }
         if (!test.tally.close("random")) {
             System.exit(1);
         }
@@ -44,7 +47,6 @@ public final class RandomRunsTest {
         WakeOrder x = new WakeOrder();
         Model y = new Model();
         StringBuilder told = new StringBuilder();
-        fed = 0;
         boolean same = true;
         boolean heavy = run % 8 == 0;
         for (int n = 0; n < CALLS && same; n++) {
@@ -64,6 +66,23 @@ public final class RandomRunsTest {
                 continue;
             }
             same = both(run, told, x, y, m, arguments(m));
+        }
+    }
+
+    /** One text with changes, for its fault alone. */
+    private void readOnce(int run) {
+        WakeOrder x = new WakeOrder();
+        Model y = new Model();
+        StringBuilder told = new StringBuilder();
+        StringBuilder text = new StringBuilder(text());
+        for (int k = below(4); k > 0; k--) {
+            change(text);
+        }
+        for (int i = 0; i < text.length(); i++) {
+            both(run, told, x, y, named("feed"), (int) text.charAt(i));
+        }
+        for (String call : new String[] {"city", "fault"}) {
+            both(run, told, x, y, named(call));
         }
     }
 
