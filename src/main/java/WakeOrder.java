@@ -29,7 +29,6 @@ public final class WakeOrder {
     private final Trials trials = new Trials();
     private final Windows windows = new Windows();
     private final Book book = new Book();
-    private int faultPlace = NONE;
     private int seedNow;
 
     /** No city stands yet. */
@@ -47,7 +46,6 @@ public final class WakeOrder {
 
     public int city() {
         reader.readText();
-        faultPlace = reader.place;
         if (reader.trouble != 0) {
             return -10 - reader.trouble;
         }
@@ -61,7 +59,7 @@ public final class WakeOrder {
     }
 
     public int fault() {
-        return faultPlace;
+        return reader.place;
     }
 
     public int told(int what) {
@@ -445,6 +443,7 @@ public final class WakeOrder {
         int length;
         /** The number of the fault, 0 if there is none. */
         int trouble;
+        /** Where the fault is, NONE if there is none; stays till the next text is read. */
         int place = NONE;
         private int at;
         private int numberAt;
