@@ -1,15 +1,13 @@
 import java.lang.reflect.Method;
-import java.util.ArrayList;
-import java.util.Comparator;
 import java.util.List;
 
-/** Random runs of all calls, held against the model: each of 512 calls at most, on a new object. */
+/** Random runs of all calls, held against the model. */
 public final class RandomRunsTest {
     private static final int RUNS = 400;
-    private static final int CALLS = 512;
+    private static final int NONE_MINUTE = -1;
 
     private final Tally tally = new Tally();
-    private final List<Method> calls = new ArrayList<>();
+    private final List<Method> calls = Pair.calls();
     private long state;
 
     private int below(int n) {
@@ -23,12 +21,6 @@ public final class RandomRunsTest {
 
     public static void main(String[] args) {
         RandomRunsTest test = new RandomRunsTest();
-        for (Method m : WakeOrder.class.getDeclaredMethods()) {
-            if (java.lang.reflect.Modifier.isPublic(m.getModifiers())) {
-                test.calls.add(m);
-            }
-        }
-        test.calls.sort(Comparator.comparing(Method::getName));
         int runs = args.length > 0 ? Integer.parseInt(args[0]) : RUNS;
         for (int run = 0; run < runs; run++) {
             test.state = run * 7919L + 17;
@@ -44,73 +36,35 @@ public final class RandomRunsTest {
     }
 
     private void runOnce(int run) {
-        WakeOrder x = new WakeOrder();
-        Model y = new Model();
-        StringBuilder told = new StringBuilder();
-        boolean same = true;
+        Pair pair = new Pair(tally, "run " + run);
         boolean heavy = run % 8 == 0;
-        for (int n = 0; n < CALLS && same; n++) {
-            if (n == 0 && !oneIn(6) || oneIn(150)) {
-                String text = text();
-                for (int i = 0; i < text.length() && same; i++) {
-                    same = both(run, told, x, y, named("feed"), (int) text.charAt(i));
-                    n++;
-                }
-                same = same && both(run, told, x, y, named("city"));
-                same = same && both(run, told, x, y, named("fault"));
-                n += 2;
+        if (!oneIn(6)) {
+            pair.load(text());
+        }
+        while (pair.goesOn()) {
+            if (oneIn(150)) {
+                pair.load(text());
                 continue;
             }
             Method m = calls.get(below(calls.size()));
             if (m.getName().equals("city") && !oneIn(10) || isHeavy(m) && !heavy && !oneIn(4)) {
                 continue;
             }
-            same = both(run, told, x, y, m, arguments(m));
+            pair.call(m, arguments(m));
         }
     }
 
     /** One text with changes, for its fault alone. */
     private void readOnce(int run) {
-        WakeOrder x = new WakeOrder();
-        Model y = new Model();
-        StringBuilder told = new StringBuilder();
         StringBuilder text = new StringBuilder(text());
         for (int k = below(4); k > 0; k--) {
             change(text);
         }
-        for (int i = 0; i < text.length(); i++) {
-            both(run, told, x, y, named("feed"), (int) text.charAt(i));
-        }
-        for (String call : new String[] {"city", "fault"}) {
-            both(run, told, x, y, named(call));
-        }
+        new Pair(tally, "text " + run).load(text.toString());
     }
 
     private static boolean isHeavy(Method m) {
         return m.getName().equals("lookNext") || m.getName().equals("raise") || m.getName().equals("orders");
-    }
-
-    private Method named(String name) {
-        for (Method m : calls) {
-            if (m.getName().equals(name)) {
-                return m;
-            }
-        }
-        throw new IllegalStateException(name);
-    }
-
-    private boolean both(int run, StringBuilder told, WakeOrder x, Model y, Method m, Object... args) {
-        try {
-            told.append(m.getName()).append(java.util.Arrays.toString(args)).append(' ');
-            Method other = Model.class.getDeclaredMethod(m.getName(), m.getParameterTypes());
-            int got = (Integer) m.invoke(x, args);
-            int want = (Integer) other.invoke(y, args);
-            tally.due("run " + run + (got == want ? "" : ": " + told), got, want);
-            return got == want;
-        } catch (ReflectiveOperationException e) {
-            tally.that("run " + run + ": " + told + " threw " + e.getCause(), false);
-            return false;
-        }
     }
 
     private Object[] arguments(Method m) {
@@ -147,8 +101,6 @@ public final class RandomRunsTest {
             default: return below(6);
         }
     }
-
-    private static final int NONE_MINUTE = -1;
 
     private String text() {
         StringBuilder s = new StringBuilder();
