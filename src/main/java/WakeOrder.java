@@ -818,18 +818,19 @@ public final class WakeOrder {
             Arrays.fill(up, NONE);
             Arrays.fill(done, NONE);
             int known = 0;
-            for (int round = 0; round <= PERSON_LIMIT + JOB_LIMIT; round++) {
+            for (int round = 0; round <= JOB_LIMIT; round++) {
                 int before = known;
-                known = rouse(row, shut) + work();
-                if (known == before || known == row.size + city.jobs) {
+                rouse(row, shut);
+                known = work();
+                // who is not up by now waits for a job: if no other one is done, nobody else will be
+                if (known == before) {
                     break;
                 }
             }
         }
 
-        /** Sets who is up, from the head down; answers how many are. */
-        private int rouse(Row row, int shut) {
-            int known = 0;
+        /** Sets who is up by the jobs that are done, from the head down. */
+        private void rouse(Row row, int shut) {
             int lawful = 0;
             for (int i = 0; i < row.size; i++) {
                 int p = row.at(i);
@@ -841,11 +842,7 @@ public final class WakeOrder {
                 if (open) {
                     lawful = up[p];
                 }
-                if (up[p] != NONE) {
-                    known++;
-                }
             }
-            return known;
         }
 
         private int wakesAt(int p) {
@@ -854,7 +851,7 @@ public final class WakeOrder {
             return j == NONE ? own : laterOf(own, valueAt(done, j));
         }
 
-        /** Sets which jobs are done, the lesser first; answers how many are. */
+        /** Sets when jobs are done by those who are up, the lesser first; answers how many are. */
         private int work() {
             int known = 0;
             System.arraycopy(up, 0, idleFrom, 0, PERSON_LIMIT);

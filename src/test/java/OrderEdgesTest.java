@@ -311,6 +311,47 @@ public final class OrderEdgesTest extends Edges {
         order(x);
     }
 
+    @Says(of = {5, 6, 7, 8, 9, 12, 13, 14, 16, 17, 18, 19, 22, 23}, words = "DISMISSED ones are not in it")
+    void nobodyInTheOrder() {
+        WakeOrder x = allDismissed(LATE_KING);
+        told(x, 200, 4, 4, 0, 0, 15, 0, 0, 15, 0, 0, 4);
+        order(x);
+        ups(x, NONE, NONE, NONE, NONE);
+        dones(x, NONE, NONE, NONE, NONE);
+        due(x.rank(0, 0), OUTSIDE);
+        due(x.dismiss(0), NOT);
+        due(x.raise(0, 0, NONE), 0);
+        due(x.raise(1, 999, NONE), NONE);
+        due(x.leastHarm(0, 0), NONE);
+        due(x.bread(0), 0);
+        due(x.free(0), 0);
+        due(x.free(1), 0);
+        due(x.orders(NONE), 1);
+        due(x.orders(0), NONE);
+        due(x.lookNext(), NONE);
+        due(x.eyes(3, true), 0);
+        due(x.hand(0, 3), 1);
+        due(x.wake(3, 5), 30);
+        due(x.drift(1), 1);
+        due(x.told(11), 8);
+        due(x.keep(0), 1);
+        due(x.goBack(0), 1);
+        told(x, 200, 4, 4, 0, 1, 15, 8, 0, 15, 0, 0, 0);
+    }
+
+    @Says(of = {3, 5, 6, 7}, words = "What has a number has it from 0 on, as it comes.")
+    void numbersAsTheyCome() {
+        WakeOrder x = city("c100;p5;j0 1 9;w0 0;p6;j1 2 0;j0 3 1;p7;");
+        told(x, 100, 3, 3);
+        due(x.person(1, 0), 6);
+        due(x.person(2, 0), 7);
+        due(x.job(1, 0), 1);
+        due(x.job(1, 2), 0);
+        due(x.job(2, 0), 0);
+        due(x.job(2, 1), 3);
+        due(x.person(0, 2), 0);
+    }
+
     // ---- who is up
 
     @Says(of = 6, words = "What would be UP or done at MINUTE M or later, or never, is NONE.")

@@ -252,6 +252,17 @@ public final class TriedEdgesTest extends Edges {
     }
 
     @Says(of = 18, words = "were EYES of all SHUT")
+    void breadWhoeverHoldsItUp() {
+        for (int p = 0; p < 5; p++) {
+            WakeOrder x = city("c100;p1;p1;p1;p1;p1;p1;j5 1 9;");
+            x.wake(p, 50);
+            due(x.bread(0), 49);
+            x.eyes(p, true);
+            due(x.bread(0), 0);
+        }
+    }
+
+    @Says(of = 18, words = "were EYES of all SHUT")
     void breadWhenAllAreShut() {
         WakeOrder x = city(LATE_KING);
         for (int p = 0; p < 4; p++) {
