@@ -31,7 +31,7 @@ public final class WakeOrder {
     private final Book book = new Book();
     private int seedNow;
 
-    /** No city stands yet. */
+    // the face asks for it; the rows are made once, where they stand
     public WakeOrder() {
     }
 
@@ -46,8 +46,8 @@ public final class WakeOrder {
 
     public int city() {
         reader.readText();
-        if (reader.trouble != 0) {
-            return -10 - reader.trouble;
+        if (reader.faultKind != 0) {
+            return -10 - reader.faultKind;
         }
         city.become(reader.draft);
         now.begin(city);
@@ -59,7 +59,7 @@ public final class WakeOrder {
     }
 
     public int fault() {
-        return reader.place;
+        return reader.faultPlace;
     }
 
     public int told(int what) {
@@ -203,17 +203,17 @@ public final class WakeOrder {
     // ---- tried
 
     public int raise(int jobs, int t, int i) {
-        if ((jobs & ~lowBits(city.jobs)) != 0) {
+        if ((jobs & ~setOfFirst(city.jobs)) != 0) {
             return UNKNOWN;
         }
         if (t < 0 || t > LAST_MINUTE) {
             return OUTSIDE;
         }
         trials.tryRaising(capital, jobs, t);
-        if (trials.fewest == NONE) {
+        if (trials.fewestRaised == NONE) {
             return NONE;
         }
-        return i == NONE ? trials.fewest : trials.best.at(i);
+        return i == NONE ? trials.fewestRaised : trials.best.at(i);
     }
 
     public int leastHarm(int p, int what) {
@@ -270,7 +270,7 @@ public final class WakeOrder {
             return UNKNOWN;
         }
         windows.survey(capital);
-        return p == NONE ? windows.total : windows.sureOf(p);
+        return p == NONE ? windows.fitting : windows.sureOf(p);
     }
 
     public int lookNext() {
@@ -343,13 +343,12 @@ public final class WakeOrder {
         return j >= 0 && j < city.jobs && j < JOB_LIMIT;
     }
 
-    /** The set of the first n, n from 0 to 8. */
-    private static int lowBits(int n) {
+    private static int setOfFirst(int n) {
         return (1 << n) - 1;
     }
 
     private int dismissedOnes() {
-        return lowBits(city.persons) & ~now.row.members();
+        return setOfFirst(city.persons) & ~now.row.members();
     }
 
     private int jobsOf(int p) {
@@ -381,14 +380,13 @@ public final class WakeOrder {
         return i >= 0 && i < row.length ? row[i] : NONE;
     }
 
-    /** The later of two minutes; never, if one of them is never. */
-    private static int laterOf(int a, int b) {
+    private static int laterOrNever(int a, int b) {
         return a == NONE || b == NONE ? NONE : Math.max(a, b);
     }
 
     /** What the text tells; nothing in it changes until another text is read. */
     private static final class City {
-        /** 0 as long as there is no city. */
+        /** 0 tells that there is no city: one that was told has ten at least. */
         int minutes;
         int persons;
         int jobs;
@@ -441,10 +439,9 @@ public final class WakeOrder {
         private final int[] text = new int[TEXT_LIMIT];
         final City draft = new City();
         int length;
-        /** The number of the fault, 0 if there is none. */
-        int trouble;
-        /** Where the fault is, NONE if there is none; stays till the next text is read. */
-        int place = NONE;
+        /** The faults' numbers begin at 1: 0 is none. */
+        int faultKind;
+        int faultPlace = NONE;
         private int at;
         private int numberAt;
 
@@ -457,24 +454,24 @@ public final class WakeOrder {
             return true;
         }
 
-        /** The text is empty afterwards. */
         void readText() {
             draft.clear();
             at = 0;
-            trouble = 0;
-            place = NONE;
+            faultKind = 0;
+            faultPlace = NONE;
             for (int clause = 0; clause <= TEXT_LIMIT; clause++) {
                 skipBlanks();
-                if (at >= length || trouble != 0) {
+                if (at >= length || faultKind != 0) {
                     break;
                 }
                 readClause();
             }
+            // a text with a fault is not read on, but told anew
             length = 0;
         }
 
         private void readClause() {
-            int word = letter();
+            int word = letterOrNone();
             int wordAt = at;
             at++;
             if (draft.minutes == 0 && word != 'c') {
@@ -496,7 +493,7 @@ public final class WakeOrder {
             }
             int minutes = number(10, LAST_MINUTE);
             endClause();
-            if (trouble == 0) {
+            if (faultKind == 0) {
                 draft.minutes = minutes;
             }
         }
@@ -507,7 +504,7 @@ public final class WakeOrder {
             }
             int minute = number(0, LAST_MINUTE);
             endClause();
-            if (trouble == 0) {
+            if (faultKind == 0) {
                 draft.addPerson(minute);
             }
         }
@@ -523,7 +520,7 @@ public final class WakeOrder {
                 blame(BAD_NUMBER, numberAt);
             }
             endClause();
-            if (trouble == 0) {
+            if (faultKind == 0) {
                 draft.addJob(p, minutes, ahead == NO_JOB ? NONE : ahead);
             }
         }
@@ -535,30 +532,29 @@ public final class WakeOrder {
             }
             int j = number(0, draft.jobs - 1);
             endClause();
-            if (trouble == 0 && holds(draft.waitsFor, p)) {
+            if (faultKind == 0 && holds(draft.waitsFor, p)) {
                 draft.waitsFor[p] = j;
             }
         }
 
         private void skipBlanks() {
-            while (at < length && letter() == BLANK) {
+            while (at < length && letterOrNone() == BLANK) {
                 at++;
             }
         }
 
-        /** The letter that is next, NONE at the end. */
-        private int letter() {
+        private int letterOrNone() {
             return at >= 0 && at < length && at < text.length ? text[at] : NONE;
         }
 
         private boolean atFigure() {
-            int letter = letter();
+            int letter = letterOrNone();
             return letter >= '0' && letter <= '9';
         }
 
         private int number(int low, int high) {
             skipBlanks();
-            if (trouble != 0) {
+            if (faultKind != 0) {
                 return 0;
             }
             numberAt = at;
@@ -566,7 +562,7 @@ public final class WakeOrder {
             while (at < length && atFigure()) {
                 // what is too long is a fault anyway, and must not run over
                 if (at - numberAt < LONGEST_NUMBER) {
-                    value = value * 10 + letter() - '0';
+                    value = value * 10 + letterOrNone() - '0';
                 }
                 at++;
             }
@@ -580,7 +576,7 @@ public final class WakeOrder {
 
         private void endClause() {
             skipBlanks();
-            if (letter() == ';') {
+            if (letterOrNone() == ';') {
                 at++;
             } else {
                 blame(CANNOT_STAND, at);
@@ -589,9 +585,9 @@ public final class WakeOrder {
 
         /** Only the first is kept: reading goes from left to right. */
         private void blame(int kind, int where) {
-            if (trouble == 0) {
-                trouble = kind;
-                place = where;
+            if (faultKind == 0) {
+                faultKind = kind;
+                faultPlace = where;
             }
         }
     }
@@ -627,8 +623,7 @@ public final class WakeOrder {
             size = other.size;
         }
 
-        /** All of a set, by number. */
-        void line(int set) {
+        void fillByNumber(int set) {
             size = 0;
             for (int p = 0; p < PERSON_LIMIT; p++) {
                 if ((set >> p & 1) == 1) {
@@ -659,8 +654,7 @@ public final class WakeOrder {
             size++;
         }
 
-        /** How many are nearer the head here than in another row of the same persons. */
-        int raisedAgainst(Row other) {
+        int nearerHeadThanIn(Row other) {
             int raised = 0;
             for (int i = 0; i < size; i++) {
                 if (i < other.placeOf(at(i))) {
@@ -670,8 +664,8 @@ public final class WakeOrder {
             return raised;
         }
 
-        /** The next one of all orders, the lesser persons first; false behind the last. */
-        boolean advance() {
+        /** By lesser persons first: so the first of like orders is met ahead of the others. */
+        boolean toNextOrder() {
             int turn = size - 2;
             while (turn >= 0 && at(turn) > at(turn + 1)) {
                 turn--;
@@ -708,7 +702,7 @@ public final class WakeOrder {
         int mornings;
 
         void begin(City city) {
-            row.line(lowBits(city.persons));
+            row.fillByNumber(setOfFirst(city.persons));
             System.arraycopy(city.wakes, 0, wakes, 0, PERSON_LIMIT);
             System.arraycopy(city.doer, 0, doer, 0, JOB_LIMIT);
             shut = 0;
@@ -820,8 +814,8 @@ public final class WakeOrder {
             int known = 0;
             for (int round = 0; round <= JOB_LIMIT; round++) {
                 int before = known;
-                rouse(row, shut);
-                known = work();
+                setUpByDone(row, shut);
+                known = setDoneAndCount();
                 // who is not up by now waits for a job: if no other one is done, nobody else will be
                 if (known == before) {
                     break;
@@ -829,8 +823,7 @@ public final class WakeOrder {
             }
         }
 
-        /** Sets who is up by the jobs that are done, from the head down. */
-        private void rouse(Row row, int shut) {
+        private void setUpByDone(Row row, int shut) {
             int lawful = 0;
             for (int i = 0; i < row.size; i++) {
                 int p = row.at(i);
@@ -838,7 +831,7 @@ public final class WakeOrder {
                     continue;
                 }
                 boolean open = (shut >> p & 1) == 0;
-                up[p] = inMorning(open ? laterOf(wakesAt(p), lawful) : wakesAt(p));
+                up[p] = inMorning(open ? laterOrNever(wakesAt(p), lawful) : wakesAt(p));
                 if (open) {
                     lawful = up[p];
                 }
@@ -848,18 +841,17 @@ public final class WakeOrder {
         private int wakesAt(int p) {
             int own = valueAt(now.wakes, p);
             int j = valueAt(city.waitsFor, p);
-            return j == NONE ? own : laterOf(own, valueAt(done, j));
+            return j == NONE ? own : laterOrNever(own, valueAt(done, j));
         }
 
-        /** Sets when jobs are done by those who are up, the lesser first; answers how many are. */
-        private int work() {
+        private int setDoneAndCount() {
             int known = 0;
             System.arraycopy(up, 0, idleFrom, 0, PERSON_LIMIT);
             for (int j = 0; j < JOB_LIMIT && j < city.jobs; j++) {
                 int p = now.doer[j];
                 int from = valueAt(idleFrom, p);
                 if (city.behind[j] != NONE) {
-                    from = laterOf(from, valueAt(done, city.behind[j]));
+                    from = laterOrNever(from, valueAt(done, city.behind[j]));
                 }
                 done[j] = from == NONE ? NONE : inMorning(from + city.takes[j]);
                 if (holds(idleFrom, p)) {
@@ -907,7 +899,6 @@ public final class WakeOrder {
             return first != NONE && (second == NONE || first < second);
         }
 
-        /** Whether all of a set of jobs are done at minute t or before. */
         boolean allDoneBy(int jobs, int t) {
             for (int j = 0; j < done.length; j++) {
                 if ((jobs >> j & 1) == 1 && (done[j] == NONE || done[j] > t)) {
@@ -917,8 +908,7 @@ public final class WakeOrder {
             return true;
         }
 
-        /** The minutes at which all but one are up, added up. */
-        int upOfOthers(Row row, int but) {
+        int sumOfUpBut(Row row, int but) {
             int sum = 0;
             for (int i = 0; i < row.size; i++) {
                 int p = row.at(i);
@@ -934,22 +924,21 @@ public final class WakeOrder {
     private static final class Trials {
         private final Row trial = new Row();
         final Row best = new Row();
-        /** How many the best order raises, NONE if there is no such order. */
-        int fewest;
+        int fewestRaised;
         int bestPlace;
         int harm;
 
         void tryRaising(Capital capital, int jobs, int t) {
             Row row = capital.now.row;
-            fewest = NONE;
-            trial.line(row.members());
+            fewestRaised = NONE;
+            trial.fillByNumber(row.members());
             for (int k = 0; k < ORDER_LIMIT; k++) {
-                int raised = trial.raisedAgainst(row);
-                if ((fewest == NONE || raised < fewest) && trialDoes(capital, jobs, t)) {
-                    fewest = raised;
+                int raised = trial.nearerHeadThanIn(row);
+                if ((fewestRaised == NONE || raised < fewestRaised) && trialDoes(capital, jobs, t)) {
+                    fewestRaised = raised;
                     best.become(trial);
                 }
-                if (!trial.advance()) {
+                if (!trial.toNextOrder()) {
                     break;
                 }
             }
@@ -972,7 +961,7 @@ public final class WakeOrder {
                 trial.takeOut(p);
                 trial.putIn(p, place);
                 capital.reckon(trial, capital.now.shut);
-                int sum = capital.upOfOthers(trial, p);
+                int sum = capital.sumOfUpBut(trial, p);
                 if (harm == NONE || sum < harm) {
                     harm = sum;
                     bestPlace = place;
@@ -1010,8 +999,7 @@ public final class WakeOrder {
         private final int[] later = new int[SEEN_LIMIT];
         int count;
         private final Row trial = new Row();
-        /** How many orders fit. */
-        int total;
+        int fitting;
         private final int[] sure = new int[PERSON_LIMIT];
         /** For p * 6 + q in how many of the fitting orders p is up earlier than q. */
         private final int[] parts = new int[PERSON_LIMIT * PERSON_LIMIT];
@@ -1026,18 +1014,17 @@ public final class WakeOrder {
             return true;
         }
 
-        /** Goes through all orders of those who are not dismissed. */
         void survey(Capital capital) {
-            total = 0;
+            fitting = 0;
             Arrays.fill(sure, NONE);
             Arrays.fill(parts, 0);
-            trial.line(capital.now.row.members());
+            trial.fillByNumber(capital.now.row.members());
             for (int k = 0; k < ORDER_LIMIT; k++) {
                 capital.reckon(trial, capital.now.shut);
                 if (fits(capital)) {
                     countTrial(capital);
                 }
-                if (!trial.advance()) {
+                if (!trial.toNextOrder()) {
                     break;
                 }
             }
@@ -1055,14 +1042,14 @@ public final class WakeOrder {
         private void countTrial(Capital capital) {
             for (int p = 0; p < PERSON_LIMIT; p++) {
                 int place = trial.placeOf(p);
-                sure[p] = total == 0 || sure[p] == place ? place : NONE;
+                sure[p] = fitting == 0 || sure[p] == place ? place : NONE;
                 for (int q = p + 1; q < PERSON_LIMIT; q++) {
                     if (capital.isEarlier(p, q)) {
                         parts[p * PERSON_LIMIT + q]++;
                     }
                 }
             }
-            total++;
+            fitting++;
         }
 
         int sureOf(int p) {
@@ -1071,11 +1058,11 @@ public final class WakeOrder {
 
         int bestPair(int persons) {
             int bestCode = NONE;
-            int least = total;
+            int least = fitting;
             for (int p = 0; p < PERSON_LIMIT && p < persons; p++) {
                 for (int q = p + 1; q < PERSON_LIMIT && q < persons; q++) {
                     int part = parts[p * PERSON_LIMIT + q];
-                    int greatest = Math.max(part, total - part);
+                    int greatest = Math.max(part, fitting - part);
                     if (greatest < least) {
                         least = greatest;
                         bestCode = 10 * p + q;

@@ -8,26 +8,25 @@ public final class RandomRunsTest {
 
     private final Tally tally = new Tally();
     private final List<Method> calls = Pair.calls();
-    private long state;
+    private RandomTexts random = new RandomTexts(0);
 
     private int below(int n) {
-        state = state * 6364136223846793005L + 1442695040888963407L;
-        return (int) ((state >>> 33) % n);
+        return random.below(n);
     }
 
     private boolean oneIn(int n) {
-        return below(n) == 0;
+        return random.oneIn(n);
     }
 
     public static void main(String[] args) {
         RandomRunsTest test = new RandomRunsTest();
         int runs = args.length > 0 ? Integer.parseInt(args[0]) : RUNS;
         for (int run = 0; run < runs; run++) {
-            test.state = run * 7919L + 17;
+            test.random = new RandomTexts(run * 7919L + 17);
             test.runOnce(run);
         }
         for (int text = 0; text < 20 * runs; text++) {
-            test.state = text * 104729L + 5;
+            test.random = new RandomTexts(text * 104729L + 5);
             test.readOnce(text);
         }
         if (!test.tally.close("random")) {
@@ -39,11 +38,11 @@ public final class RandomRunsTest {
         Pair pair = new Pair(tally, "run " + run);
         boolean heavy = run % 8 == 0;
         if (!oneIn(6)) {
-            pair.load(text());
+            pair.load(random.text());
         }
         while (pair.goesOn()) {
             if (oneIn(150)) {
-                pair.load(text());
+                pair.load(random.text());
                 continue;
             }
             Method m = calls.get(below(calls.size()));
@@ -56,9 +55,9 @@ public final class RandomRunsTest {
 
     /** One text with changes, for its fault alone. */
     private void readOnce(int run) {
-        StringBuilder text = new StringBuilder(text());
+        StringBuilder text = new StringBuilder(random.text());
         for (int k = below(4); k > 0; k--) {
-            change(text);
+            random.change(text);
         }
         new Pair(tally, "text " + run).load(text.toString());
     }
@@ -99,42 +98,6 @@ public final class RandomRunsTest {
             case "seed": return below(Integer.MAX_VALUE);
             case "keep": case "goBack": return below(2);
             default: return below(6);
-        }
-    }
-
-    private String text() {
-        StringBuilder s = new StringBuilder();
-        int minutes = oneIn(3) ? 10 + below(990) : 200 + below(300);
-        s.append('c').append(minutes).append(';');
-        int persons = oneIn(3) ? below(7) : 3 + below(4);
-        for (int p = 0; p < persons; p++) {
-            s.append('p').append(below(oneIn(8) ? 1000 : 100)).append(';');
-        }
-        int jobs = persons == 0 ? 0 : below(9);
-        for (int j = 0; j < jobs; j++) {
-            int behind = j == 0 || oneIn(2) ? 9 : below(j);
-            s.append('j').append(below(persons)).append(' ').append(1 + below(oneIn(3) ? 99 : 20)).append(' ').append(behind).append(';');
-        }
-        for (int p = 0; p < persons && jobs > 0; p++) {
-            if (oneIn(3)) {
-                s.append('w').append(p).append(' ').append(below(jobs)).append(';');
-            }
-        }
-        int changes = oneIn(3) ? 1 + below(3) : 0;
-        for (int k = 0; k < changes; k++) {
-            change(s);
-        }
-        return s.length() > 220 ? s.substring(0, 220) : s.toString();
-    }
-
-    private void change(StringBuilder s) {
-        String letters = "cpjw;0123456789 9 ;x";
-        char letter = oneIn(20) ? (char) below(256) : letters.charAt(below(letters.length()));
-        int at = below(s.length());
-        switch (below(3)) {
-            case 0: s.insert(at, letter); break;
-            case 1: s.setCharAt(at, letter); break;
-            default: if (s.length() > 1) s.deleteCharAt(at);
         }
     }
 }
